@@ -47,7 +47,7 @@ public final class PromotionTest {
         }
     }
 
-    private static int slowOrbit(int[] letters, int most) {
+    static int slowOrbit(int[] letters, int most) {
         List<List<Integer>> first = new ArrayList<>();
         List<List<Integer>> second = new ArrayList<>();
         for (int index = 0; index < letters.length; index++) {

@@ -78,6 +78,52 @@ final class Samples {
         return words;
     }
 
+    /** The digits as the document wants them written: none for 0. */
+    static String written(int parts) {
+        return parts == 0 ? "" : Integer.toString(parts);
+    }
+
+    /** Whether a number tells a shape, by its digits from the first to the last. */
+    static boolean tellsShape(int parts) {
+        if (parts < 0) {
+            return false;
+        }
+        String text = written(parts);
+        int ahead = 8;
+        int cells = 0;
+        for (int index = 0; index < text.length(); index++) {
+            int part = text.charAt(index) - '0';
+            if (part == 0 || part > ahead) {
+                return false;
+            }
+            ahead = part;
+            cells += part;
+        }
+        return text.length() <= 8 && cells <= 12;
+    }
+
+    /** A workshop with these shapes and without words. */
+    static Tableauhall hallOf(int... shapes) {
+        Tableauhall hall = new Tableauhall();
+        for (int parts : shapes) {
+            hall.shape(parts);
+        }
+        return hall;
+    }
+
+    /** A workshop with 12 shapes and 8 words of 12 letters, made by 116 calls. */
+    static Tableauhall fullHall() {
+        Tableauhall hall = hallOf(0, 1, 21, 321, 84, 66, 444, 3333, 22221111, 22, 4, 53211);
+        for (int number = 0; number < 8; number++) {
+            int[] letters = new int[12];
+            for (int index = 0; index < letters.length; index++) {
+                letters[index] = 1 + (index * (number + 2) + number * 3) % 9;
+            }
+            put(hall, letters);
+        }
+        return hall;
+    }
+
     /** Puts a word into a workshop; returns its number. */
     static int put(Tableauhall hall, int... letters) {
         int word = hall.word();

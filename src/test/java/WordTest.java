@@ -207,11 +207,8 @@ public final class WordTest {
         for (int letter : new int[] {-1, 0, 10, Integer.MIN_VALUE, Integer.MAX_VALUE}) {
             Check.refuses("append " + letter, Check.BAD_ARGUMENT, () -> hall.append(0, letter));
         }
-        for (int what = 0; what <= Character.MAX_VALUE; what++) {
-            if ("dmil".indexOf(what) < 0) {
-                char none = (char) what;
-                Check.refuses("count " + what, Check.BAD_ARGUMENT, () -> hall.count(0, none));
-            }
+        for (char what : new char[] {'x', 'D', ' ', 0}) {
+            Check.refuses("count " + (int) what, Check.BAD_ARGUMENT, () -> hall.count(0, what));
         }
         Check.same("the word is as it was", Arrays.toString(Samples.letters(hall, 0, 2)), "[2, 1]");
         Check.same("rowOf 11", hall.rowOf(0, 11), 0);
