@@ -18,7 +18,7 @@ public final class RulesTest {
         "letterAt", "meanSize", "orbit", "part", "recorded", "rowOf", "shape", "size", "tableaux", "tableauxAnew",
         "up", "word");
     private static final List<String> RULED_OUT = List.of("::", "finally", "synchronized", "assert ", "Exact(",
-        "static {", "hashCode", "toString()", "System.out", "Throwable", "(Exception ", "NullPointerException",
+        "static {", "hashCode", "System.out", "Throwable", "(Exception ", "NullPointerException",
         "ArrayIndexOutOfBoundsException", "ClassCastException", "NegativeArraySizeException", "ArrayStoreException");
     private static final List<String> IMPORTS = List.of("ArrayList", "Arrays", "Iterator", "List",
         "NoSuchElementException");
